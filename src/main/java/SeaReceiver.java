@@ -70,7 +70,8 @@ public final class SeaReceiver {
             if (outcome == Sentence.BROKE) {
                 tallies[BROKEN]++;
             } else if (outcome == Sentence.ENDED) {
-                tallies[judge()]++;
+                int verdict = judge();
+                tallies[verdict]++;
             }
         }
         tape.size = 0;

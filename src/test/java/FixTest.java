@@ -64,6 +64,7 @@ public final class FixTest {
             field(GGA, f, "+1,M", what, null);
             field(GGA, f, "-.1,M", what, null);
             field(GGA, f, "-1.,M", what, null);
+            field(GGA, f, "-1.1234567,M", what, null);
             field(GGA, f, "1-,M", what, null);
         }
         field(GGA, 9, "-99999.9,M", 6, -999999);
@@ -108,6 +109,7 @@ public final class FixTest {
         field(form, f, "235960.0", 0, null);
         field(form, f, "12345", 0, null);
         field(form, f, "1234567", 0, null);
+        field(form, f, "0012345", 0, null);
         field(form, f, "123456.", 0, null);
         field(form, f, "123456.1234", 0, null);
         field(form, f, "12345a", 0, null);
@@ -217,6 +219,7 @@ public final class FixTest {
         field(RMC, 9, "011399", 13, null);
         field(RMC, 9, "01019", 13, null);
         field(RMC, 9, "0101990", 13, null);
+        field(RMC, 9, "0010199", 13, null);
         field(RMC, 9, "010199.0", 13, null);
         field(RMC, 10, "180,W", 14, -1800);
         field(RMC, 10, "180.0,E", 14, 1800);

@@ -2,6 +2,7 @@
 public final class SendTest {
     public static void main(String[] args) {
         written();
+        everySix();
         notTold();
         voyage();
         wrongCalls();
@@ -27,6 +28,16 @@ public final class SendTest {
         }
         Bench.due("11: sending is no message", 1, () -> r.vessel(0, 23));
         Bench.due("11: nor the latest one", 3, () -> r.bits(0, 6));
+    }
+
+    /** Each value of six bits, in the third sign, which is all of the MMSI; 39 and 40 are the edge of two rows of signs. */
+    private static void everySix() {
+        for (int six = 0; six < 64; six++) {
+            SeaReceiver r = new SeaReceiver();
+            Bench.hear(r, Bench.one(Bench.head(1, six << 20) + VesselTest.ONE));
+            r.send(0, 1, 0);
+            Bench.due("12: six bits " + six, six < 40 ? 48 + six : 96 + six - 40, r.out(16));
+        }
     }
 
     private static void notTold() {

@@ -61,7 +61,7 @@ public final class StreamTest {
         String[] broken = {
             "$*00\r\n", "!*", "$A\r\n", "$A\t", "$A\u007f", "$\u00e4", "$A\n", "$A*4a", "$A*a1", "$A*G", "$A*4*", "$A**",
             "$A*41\n", "$A*41\r\r\n", "$A*41 ", "$A*411", "$A*41\rA", "$" + "A".repeat(79), "!" + "B".repeat(79) + "*00\r\n",
-            "$A*,", "$A*4/", "$A*4:", "$A*4@"
+            "$A*4G\r\n", "$A*@1\r\n", "$A*4/\r\n", "$A*4:\r\n", "$A*f1\r\n", "$A*,", "$A*4/", "$A*4:", "$A*4@"
         };
         for (String b : broken) {
             SeaReceiver r = new SeaReceiver();
@@ -114,7 +114,7 @@ public final class StreamTest {
 
     private static void addresses() {
         String[] strange = {
-            "$GPGLL,1", "$GPGG", "$GPGGAX", "$GPGGA ", "$gpGGA", "$GPgga", "$,GPGGA", "$,", "$G-GGA", "$VDM", "!GPGGA", "$AIVDM",
+            "$GPGLL,1", "$GPGG", "$GPGGAX", "$GPGGA ", "$gpGGA", "$GPgga", "$,GPGGA", "$,", "$gPGGA", "$-PGGA", "$G-GGA", "$VDM", "!GPGGA", "$AIVDM",
             "$AIVDO", "!GPRMC", "!GPVTG", "!AIVDN", "!A[VDM", "!A@VDM", "!A/VDM", "!A:VDM", "$GGA", "$GGGGGA"
         };
         for (String s : strange) {
