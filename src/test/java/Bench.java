@@ -6,8 +6,14 @@ final class Bench {
     /** Stand for what a call threw, outside what any call answers. */
     static final long NO_SUCH = 1L << 40;
     static final long ILLEGAL = 1L << 41;
+    /** Stands for the value of a sentence that was not taken. */
+    static final long FAULTY = 1L << 42;
+
+    /** Signs that may stand in a field, one at a time. */
+    static final String FIELD_SIGNS = fieldSigns();
 
     private static int wrong = 0;
+    private static String says = "";
 
     private Bench() {
     }
@@ -26,10 +32,15 @@ final class Bench {
         }
     }
 
+    /** The words of the document that the tests behind it are about. */
+    static void says(String words) {
+        says = "[" + words + "] ";
+    }
+
     static void due(String what, long want, long got) {
         if (got != want) {
             wrong++;
-            System.out.println(what + ": answered " + got + ", due is " + want);
+            System.out.println(says + what + ": answered " + got + ", due is " + want);
         }
     }
 
@@ -40,7 +51,7 @@ final class Bench {
     static void due(String what, String want, String got) {
         if (!want.equals(got)) {
             wrong++;
-            System.out.println(what + ": answered " + got + ", due is " + want);
+            System.out.println(says + what + ": answered " + got + ", due is " + want);
         }
     }
 
@@ -81,6 +92,51 @@ final class Bench {
     static int hear(SeaReceiver r, String text) {
         put(r, text);
         return r.stream();
+    }
+
+    static SeaReceiver heard(String text) {
+        SeaReceiver r = new SeaReceiver();
+        hear(r, text);
+        return r;
+    }
+
+    private static String fieldSigns() {
+        StringBuilder b = new StringBuilder();
+        for (char c = 32; c < 127; c++) {
+            if ("$!*,".indexOf(c) < 0) {
+                b.append(c);
+            }
+        }
+        return b.toString();
+    }
+
+    /** What count says of sentences: taken, broken, wrong, strange, faulty; and of the one under way. */
+    static String tallies(SeaReceiver r) {
+        return r.count(0) + " " + r.count(1) + " " + r.count(2) + " " + r.count(3) + " " + r.count(4) + ", " + r.count(12);
+    }
+
+    /** What became of a text that a new object heard: as tallies says it. */
+    static void becomes(String text, String want) {
+        due(text.replace("\r", "\\r").replace("\n", "\\n"), want, tallies(heard(text)));
+    }
+
+    /** A sentence, some of whose fields, from f on, are others. */
+    static String with(String startAndBody, int f, String contents) {
+        String[] fields = startAndBody.split(",", -1);
+        String[] others = contents.split(",", -1);
+        System.arraycopy(others, 0, fields, f, others.length);
+        return String.join(",", fields);
+    }
+
+    /** A value of the fix as a sentence tells it to a new object; FAULTY if that is what it is. */
+    static long told(String startAndBody, int what) {
+        SeaReceiver r = heard(whole(startAndBody));
+        String outcome = tallies(r);
+        if (outcome.equals("0 0 0 0 1, 0") && r.fix(what) == NONE) {
+            return FAULTY;
+        }
+        due(startAndBody, "1 0 0 0 0, 0", outcome);
+        return r.fix(what);
     }
 
     /** The n lowest bits of a value as noughts and ones. */
@@ -129,7 +185,8 @@ final class Bench {
 
     static String outText(SeaReceiver r) {
         StringBuilder b = new StringBuilder();
-        for (int i = 0; i < r.count(11); i++) {
+        int signs = r.count(11);
+        for (int i = 0; i < signs; i++) {
             b.append((char) r.out(i));
         }
         return b.toString();
@@ -137,7 +194,8 @@ final class Bench {
 
     static String text(SeaReceiver r, int v, int what) {
         StringBuilder b = new StringBuilder();
-        for (int i = 0; i < r.vessel(v, 30 + what); i++) {
+        int signs = r.vessel(v, 30 + what);
+        for (int i = 0; i < signs; i++) {
             b.append((char) r.letter(v, what, i));
         }
         return b.toString();

@@ -54,9 +54,8 @@ public final class SendTest {
     }
 
     private static void voyage() {
-        SeaReceiver r = new SeaReceiver();
-        Bench.hear(r, VesselTest.two("", Bench.head(5, 351759000)
-            + VesselTest.five("A  @B", "NAME WITH ? AND _   ", "12345678901234567890")));
+        String came = VesselTest.two("", Bench.head(5, 351759000)
+            + VesselTest.five("A  @B", "NAME WITH ? AND _   ", "12345678901234567890"));
         String bits = Bench.head(5, 351759000) + VesselTest.five("A", "NAME WITH ? AND _", "12345678901234567890");
         StringBuilder due = new StringBuilder(bits);
         for (int at : new int[] {38, 39, 270, 271, 272, 273, 422, 423}) {
@@ -64,9 +63,12 @@ public final class SendTest {
         }
         for (int id = 0; id <= 9; id++) {
             int i = id;
-            Bench.due("11: type 5", 115, () -> r.send(0, 5, i));
-            Bench.due("12: type 5", VesselTest.two("" + id, due.toString()), Bench.outText(r));
+            SeaReceiver one = Bench.heard(came);
+            Bench.due("11: type 5", 115, () -> one.send(0, 5, i));
+            Bench.due("12: type 5", VesselTest.two("" + id, due.toString()), Bench.outText(one));
         }
+        SeaReceiver r = Bench.heard(came);
+        Bench.due("11: type 5", 115, () -> r.send(0, 5, 9));
         Bench.due("12: the last one", 10, r.out(114));
         Bench.due("12: behind it", Bench.NONE, r.out(115));
         Bench.due("13: again", 115, r.again());

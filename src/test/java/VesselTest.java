@@ -234,11 +234,12 @@ public final class VesselTest {
         String bits = Bench.head(18, 987654321) + EIGHTEEN;
         Bench.hear(r, Bench.one(bits));
         for (int n = 1; n <= 32; n++) {
+            SeaReceiver one = Bench.heard(Bench.one(bits));
             for (int at = 0; at + n <= 168; at++) {
                 int from = at;
                 int width = n;
                 int want = (int) Long.parseLong(bits.substring(at, at + n), 2);
-                Bench.due("10: bits " + at + " " + n, want, () -> r.bits(from, width));
+                Bench.due("10: bits " + at + " " + n, want, () -> one.bits(from, width));
             }
         }
         int[][] none = {
