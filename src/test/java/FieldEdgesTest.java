@@ -24,6 +24,7 @@ public final class FieldEdgesTest {
         decimalSigns();
         signed();
         numbers();
+        behindALongerOne();
         quality();
         satellites();
         status();
@@ -192,6 +193,22 @@ public final class FieldEdgesTest {
         faulty(GGA, 14, "-000");
     }
 
+    private static void behindALongerOne() {
+        Bench.says("its FIELDS are what stands between commas (nothing of a sentence that was there before)");
+        SeaReceiver r = Bench.heard(Bench.whole("$GPGGA,,,,,,0,,,,,,,,12345678"));
+        Bench.due("eight digits", "0 0 0 0 1, 0", Bench.tallies(r));
+        Bench.hear(r, Bench.whole("$GPGGA,,,,,,0,,,,,,,,123"));
+        Bench.due("three digits", "0 0 0 0 2, 0", Bench.tallies(r));
+        Bench.hear(r, Bench.whole("$GPGGA,,,,,,0,,,,,,,,1234"));
+        Bench.due("four digits", 1234, () -> r.fix(9));
+        Bench.hear(r, Bench.whole("$GPGGA,,,,,,0,,,,,,,,"));
+        Bench.due("none", Bench.NONE, () -> r.fix(9));
+        Bench.hear(r, Bench.whole("!AIVDM,1,1,,A,1,00") + Bench.whole("!AIVDM,1,1,,A,1,"));
+        Bench.due("two digits, none", "2 0 0 0 4, 0", Bench.tallies(r));
+        Bench.hear(r, Bench.whole("!AIVDM,1,1,,A,1,0") + Bench.whole("$GPVTG") + Bench.whole("$GPVTG,,,,,,,,"));
+        Bench.due("one digit, an address alone, commas alone", "4 0 0 0 5, 0", Bench.tallies(r));
+    }
+
     private static void quality() {
         Bench.says("QUALITY: a digit 0 .. 8");
         for (char c : Bench.FIELD_SIGNS.toCharArray()) {
@@ -338,6 +355,9 @@ public final class FieldEdgesTest {
                 faulty(RMC, 9, "111111".substring(0, place) + c + "111111".substring(place + 1));
             }
         }
+        faulty(RMC, 9, "0111111");
+        faulty(RMC, 9, "1111110");
+        faulty(RMC, 9, "11111");
         faulty(RMC, 9, "111111.1");
     }
 
