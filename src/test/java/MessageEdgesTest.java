@@ -462,6 +462,8 @@ public final class MessageEdgesTest {
         Bench.due("it is not there", Bench.NO_SUCH, () -> r.vessel(40, 0));
         Bench.hear(r, Bench.one(Bench.head(1, 40) + VesselTest.ONE));
         Bench.due("missed again", "42 0 40 2", r.count(5) + " " + r.count(6) + " " + r.count(9) + " " + r.count(8));
+        Bench.due("a missed one is the latest message: its type", 1, () -> r.bits(0, 6));
+        Bench.due("a missed one is the latest message: its MMSI", 40, () -> r.bits(8, 30));
         Bench.hear(r, Bench.one(Bench.head(1, 39) + VesselTest.ONE) + Bench.one(Bench.head(2, 0) + VesselTest.ONE));
         Bench.due("those that are there", "44 0 40 2", r.count(5) + " " + r.count(6) + " " + r.count(9) + " " + r.count(8));
         Bench.due("the fortieth has two", 2, () -> r.vessel(39, 23));
